@@ -350,7 +350,8 @@ public final class TollTags {
     }
 
     private int chargesNow(int land) {
-        addUp(NONE, now);
+        signals.know(now);
+        ledger.addUp(NONE, now);
         return ledger.chargesIn(land);
     }
 
@@ -529,11 +530,11 @@ public final class TollTags {
         }
 
         int axlesOf(int box) {
-            return at(axles, lorryOf(box));
+            return at(axles, at(boxLorry, box));
         }
 
         int fumesOf(int box) {
-            return at(fumes, lorryOf(box));
+            return at(fumes, at(boxLorry, box));
         }
     }
 
@@ -1354,7 +1355,6 @@ public final class TollTags {
     private static final class Watch {
         private static final int MOST_ROADS = 6;
         private static final int MOST_LORRIES = 999;
-        private static final int SETS = 1 << CAMERAS;
 
         private int many;
         private final int[] roads = new int[WAYS];
@@ -1402,9 +1402,14 @@ public final class TollTags {
             return at(best, most);
         }
 
+        /** Looks at the sets of ROADS of WAYS alone: another ROAD would make a set no better, but larger. */
         private void findBest() {
+            int all = 0;
+            for (int i = 0; i < many; i++) {
+                all |= at(roads, i);
+            }
             Arrays.fill(best, 0);
-            for (int set = 1; set < SETS; set++) {
+            for (int set = all; set > 0; set = set - 1 & all) {
                 int size = Integer.bitCount(set);
                 if (isBetter(set, at(best, size))) {
                     put(best, size, set);

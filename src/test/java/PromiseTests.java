@@ -36,6 +36,7 @@ public final class PromiseTests {
         rates();
         tracks();
         leastWays();
+        longestTrack();
         late();
         doubles();
         gone();
@@ -509,6 +510,11 @@ public final class PromiseTests {
         faulty(3, 5, "toll toll 1;");
         faulty(3, 5, "toll x;");
         faulty(3, 5, "toll late;");
+        faulty(3, 5, "toll z;");
+        faulty(3, 5, "toll az;");
+        faulty(1, 5, "toll {;");
+        faulty(1, 5, "toll `;");
+        faulty(1, 5, "toll :;");
         faulty(3, 9, "toll 1 + not 1;");
         faulty(3, 7, "toll 1<not 1;");
         faulty(3, 7, "toll 1*free;");
@@ -755,6 +761,38 @@ public final class PromiseTests {
         z.signal(0, 0, 0);
         Checks.same("the longest way", 25, z.track(0, 0, 0));
         Checks.same("its km", 2 + 23 * 999, z.track(0, 3, 0));
+    }
+
+    /** 300 SIGNALS and 23 GUESSED ROADS between each two: no TRACK is longer. */
+    private static void longestTrack() {
+        TollTags x = new TollTags();
+        for (int i = 0; i < 9; i++) {
+            x.land();
+        }
+        x.provider(1000);
+        x.lorry(2, 0);
+        x.box(0, 0);
+        x.road(23, 0, 8, 2, 0, true);
+        for (int node = 0; node < 23; node++) {
+            x.road(node, node + 1, 8, 1, 0, false);
+        }
+        x.go(86400);
+        for (int i = 0; i < 300; i++) {
+            x.signal(0, 0, 86400);
+        }
+        int all = 300 + 299 * 23;
+        Checks.same("passages", all, x.track(0, 0, 86400));
+        Checks.same("guessed", 299 * 23, x.track(0, 5, 86400));
+        due("the last one's road", 0, () -> x.passage(0, all - 1, 0, 86400));
+        due("the one ahead of it", 23, () -> x.passage(0, all - 2, 0, 86400));
+        due("gone for the last one", 299 * 25, () -> x.passage(0, all - 1, 5, 86400));
+        due("none behind", NO_SUCH, () -> x.passage(0, all, 0, 86400));
+        Checks.same("due", 10 * (299 * 25 + 2), x.due(0, 8, 2, 86400));
+        Checks.same("falls", 1000, x.falls(0, 8, 86400));
+        due("tried", 0, () -> Checks.attempt(x, 8, "toll 99999;", 86400));
+        Checks.same("more", all * 99999 - 10 * (299 * 25 + 2), x.more());
+        x.black(0, true, 86400);
+        Checks.same("unpaid", 10 * (299 * 25 + 2), x.unpaid(8, 2, 86400));
     }
 
     private static void late() {
