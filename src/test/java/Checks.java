@@ -48,6 +48,13 @@ final class Checks {
         return b ? 1 : 0;
     }
 
+    /** A boundary case and the one just beside it, which is answered otherwise. */
+    static void edge(String sentence, long want, Call edge, long wantBeside, Call beside) {
+        same(sentence + ": the two are answered alike", 0, truth(want == wantBeside));
+        due(sentence, want, edge);
+        due(sentence + ", just beside it", wantBeside, beside);
+    }
+
     /** Feeds a text, with blanks behind it up to a multiple of twenty bytes. */
     static void feed(TollTags x, byte[] text) {
         for (int i = 0; i < text.length; i += 20) {
