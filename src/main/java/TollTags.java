@@ -1409,9 +1409,9 @@ public final class TollTags {
                 all |= at(roads, i);
             }
             Arrays.fill(best, 0);
-            for (int set = all; set > 0; set = set - 1 & all) {
+            for (int set = 1; set < 1 << CAMERAS; set++) {
                 int size = Integer.bitCount(set);
-                if (isBetter(set, at(best, size))) {
+                if ((set & ~all) == 0 && isBetter(set, at(best, size))) {
                     put(best, size, set);
                 }
             }
